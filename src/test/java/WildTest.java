@@ -1,0 +1,167 @@
+import java.lang.reflect.Method;
+import java.lang.reflect.Modifier;
+import java.util.ArrayList;
+import java.util.Arrays;
+import java.util.Comparator;
+import java.util.List;
+import java.util.Random;
+import java.util.Set;
+
+/**
+ * All promises: wild calls never throw, like calls on two objects are answered alike, and a call
+ * that is refused changes nothing but how many there were.
+ */
+public final class WildTest {
+    private static final Set<String> NEVER_REFUSED = Set.of("element", "holds", "fault", "counts",
+            "bestScene", "who", "about", "left", "credit", "reelTake", "putRight", "shown", "got",
+            "planned", "status");
+    private static final int[] EDGES = {Integer.MIN_VALUE, Integer.MAX_VALUE, -2, -1, 4, 5, 7, 8, 9, 10,
+        16, 39, 40, 60, 61, 99, 100, 101, 364, 400, 401, 999, 1000, 4000, 4001, 99999, 100000};
+
+    public static void main(String[] args) throws Exception {
+        List<Method> methods = new ArrayList<>();
+        for (Method one : StudioYears.class.getDeclaredMethods()) {
+            if (Modifier.isPublic(one.getModifiers())) {
+                methods.add(one);
+            }
+        }
+        methods.sort(Comparator.comparing(Method::getName));
+        Checks.due("methods of the face", methods.size(), 54);
+        for (int seed = 0; seed < 120; seed++) {
+            run(methods, new Random(seed));
+        }
+        Checks.end();
+    }
+
+    private static void run(List<Method> methods, Random random) throws Exception {
+        StudioYears x = new StudioYears();
+        StudioYears twin = new StudioYears();
+        prepare(x);
+        prepare(twin);
+        for (int call = 0; call < 450; call++) {
+            Method one = methods.get(random.nextInt(methods.size()));
+            Object[] with = arguments(one, random);
+            long[] before = picture(x);
+            long answer = ((Number) one.invoke(x, with)).longValue();
+            String told = one.getName() + Arrays.toString(with);
+            Checks.due(told + " of a twin", ((Number) one.invoke(twin, with)).longValue(), answer);
+            long[] after = picture(x);
+            boolean refused = !NEVER_REFUSED.contains(one.getName()) && answer < 0;
+            for (int i = 1; i <= 7; i++) {
+                int more = refused && answer == -i ? 1 : 0;
+                Checks.due("refusals -" + i + " by " + told, after[i] - before[i], more);
+                before[i] = after[i];
+            }
+            // term() tells its FAULT even when it is refused.
+            if (one.getName().equals("term")) {
+                before[0] = after[0];
+            }
+            if (refused || NEVER_REFUSED.contains(one.getName())) {
+                Checks.due("changed by " + told, Arrays.equals(before, after) ? 0 : 1, 0);
+            }
+        }
+    }
+
+    /** A start from which much can go on. */
+    private static void prepare(StudioYears x) {
+        for (int i = 0; i < 3; i++) {
+            x.person(70 + i);
+            x.picture(i + 2);
+            x.hall(0, i, 10 * i);
+            x.scene(i, i, 1 << i, 1 + i);
+            x.scene(i, 2, i, 1);
+            x.take(i, 0, 5 + i, 6, 12);
+        }
+        Checks.write(x, 0, "y2r1s1p9l9");
+        x.term(0, 0);
+        x.term(1, 0);
+        Checks.fill(x, 1, 1, 0);
+        x.begin(0, 1);
+        x.costs(0, 7);
+        x.costs(1, 9);
+    }
+
+    private static Object[] arguments(Method one, Random random) {
+        Class<?>[] types = one.getParameterTypes();
+        Object[] with = new Object[types.length];
+        for (int i = 0; i < types.length; i++) {
+            int number = number(random);
+            if (types[i] == long.class) {
+                with[i] = random.nextInt(4) == 0 ? random.nextLong() : (long) number;
+            } else if (types[i] == boolean.class) {
+                with[i] = random.nextBoolean();
+            } else {
+                with[i] = number;
+            }
+        }
+        return with;
+    }
+
+    private static int number(Random random) {
+        int way = random.nextInt(20);
+        if (way == 0) {
+            return EDGES[random.nextInt(EDGES.length)];
+        }
+        if (way == 1) {
+            return random.nextInt();
+        }
+        return way < 16 ? random.nextInt(4) : random.nextInt(60);
+    }
+
+    /** All that the object tells without being changed: fault, the REFUSALS, then the rest. */
+    private static long[] picture(StudioYears x) {
+        List<Long> all = new ArrayList<>();
+        all.add((long) x.fault());
+        for (int what = 11; what <= 17; what++) {
+            all.add((long) x.status(what));
+        }
+        for (int what = 0; what <= 10; what++) {
+            all.add((long) x.status(what));
+        }
+        for (int i = 0; i < 16; i++) {
+            addPerson(x, i, all);
+        }
+        for (int i = 0; i < 8; i++) {
+            addPicture(x, i, all);
+            all.add((long) x.holds(i));
+            for (int e = 0; e < 60; e++) {
+                all.add(x.element(i, e));
+            }
+            all.add((long) x.got(0, i));
+            for (int week = 0; week < 40; week++) {
+                all.add((long) x.shown(i, week));
+            }
+        }
+        long[] row = new long[all.size()];
+        for (int i = 0; i < row.length; i++) {
+            row[i] = all.get(i);
+        }
+        return row;
+    }
+
+    private static void addPerson(StudioYears x, int i, List<Long> all) {
+        for (int what = 0; what < 8; what++) {
+            all.add((long) x.who(i, what));
+        }
+        for (int letter = 0; letter < 5; letter++) {
+            all.add((long) x.counts(i, letter, 0));
+            all.add((long) x.counts(i, letter, 4000));
+        }
+        all.add((long) x.got(1, i));
+    }
+
+    private static void addPicture(StudioYears x, int i, List<Long> all) {
+        for (int what = 0; what < 9; what++) {
+            all.add((long) x.about(i, what));
+        }
+        for (int scene = 0; scene < 8; scene++) {
+            all.add((long) x.left(i, scene));
+            all.add((long) x.bestScene(i, scene));
+            all.add((long) x.reelTake(i, scene));
+            all.add((long) x.credit(i, scene));
+        }
+        all.add(x.putRight(i, false));
+        all.add(x.putRight(i, true));
+        all.add((long) x.planned(i));
+    }
+}
