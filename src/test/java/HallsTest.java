@@ -4,6 +4,7 @@ public final class HallsTest {
         halls();
         clearance();
         booking();
+        clearanceAtTheEnds();
         blocks();
         blockAllOrNone();
         lastWeekOfBlock();
@@ -77,6 +78,22 @@ public final class HallsTest {
         Checks.due("-1", x.status(11), 2);
     }
 
+    private static void clearanceAtTheEnds() {
+        StudioYears x = new StudioYears();
+        x.picture(0);
+        x.hall(0, 1, 0);
+        x.hall(0, 2, 0);
+        x.book(0, 0, 0);
+        x.book(0, 0, 39);
+        Checks.due("near the first week", x.book(0, 1, 2), -6);
+        Checks.due("near the last week", x.book(0, 1, 37), -6);
+        Checks.due("in the last week", x.book(0, 1, 39), -6);
+        x.clearance(9);
+        Checks.due("within nine", x.book(0, 1, 9), -6);
+        Checks.due("within nine", x.book(0, 1, 30), -6);
+        Checks.due("beyond nine", x.block(1, 1, 0), 10);
+    }
+
     private static void blocks() {
         StudioYears x = new StudioYears();
         for (int i = 0; i < 3; i++) {
@@ -112,6 +129,11 @@ public final class HallsTest {
         Checks.due("what was stays", x.shown(0, 38), 2);
         Checks.due("showings", x.status(9), 1);
         Checks.due("two in two weeks", x.block(0, 3, 37), 39);
+        for (int week = 1; week < 37; week++) {
+            x.book(2, 0, week);
+        }
+        Checks.due("two in one week", x.block(0, 3, 0), -6);
+        Checks.due("nothing is got", x.shown(0, 0), -1);
     }
 
     private static void lastWeekOfBlock() {
@@ -169,6 +191,8 @@ public final class HallsTest {
         Checks.due("another what", x.got(2, 0), -1);
         Checks.due("another what", x.got(-1, 0), -1);
         x.book(0, 0, 6);
+        x.book(0, 0, 7);
+        Checks.due("as many coins as may be", x.takings(0, 7, 99999), 67000);
         Checks.due("no coins", x.takings(0, 6, 0), 0);
         Checks.due("told, though none", x.takings(0, 6, 5), -6);
     }

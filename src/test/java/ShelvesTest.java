@@ -39,6 +39,7 @@ public final class ShelvesTest {
         Checks.due("holds longs", x.holds(7), 103);
         Checks.due("holds shorts", x.holds(0), 101);
         Checks.due("element at first", x.element(7, 59), 0);
+        Checks.due("set first", x.set(7, 0, 8), 1);
         Checks.due("set last", x.set(7, 59, 8), 1);
         Checks.due("set beyond", x.set(7, 60, 8), -5);
         Checks.due("set below", x.set(7, -1, 8), -5);
@@ -51,6 +52,7 @@ public final class ShelvesTest {
         Checks.due("element of no shelf", x.element(8, 0), 0);
         Checks.due("element of nothing", x.element(3, 0), 0);
         x.row(7, 2, 60);
+        Checks.due("a new row is 0", x.element(7, 0), 0);
         Checks.due("a new row is 0", x.element(7, 59), 0);
         Checks.due("holds of no shelf", x.holds(-1), -1);
         Checks.due("holds of no shelf", x.holds(8), -1);
