@@ -1353,6 +1353,8 @@ public final class StudioYears {
     /** COSTS of ORDERS, and the BEST of them by sets of SCENES that are behind. */
     private static final class Orders {
         private static final int SETS = 256;
+        /** Far above any COST: all there may be comes to some 113,000. */
+        private static final int BEYOND_ANY_COST = 1000000000;
         final int[] dayPays = new int[MOST_PEOPLE];
         int fee = 0;
         int change = 0;
@@ -1394,7 +1396,7 @@ public final class StudioYears {
             }
             for (int behind = all - 1; behind >= 0; behind--) {
                 for (int last = 0; last < MOST_SCENES; last++) {
-                    leastToCome[behind * MOST_SCENES + last] = Integer.MAX_VALUE;
+                    leastToCome[behind * MOST_SCENES + last] = BEYOND_ANY_COST;
                 }
                 for (int next = 0; next < picture.sceneCount; next++) {
                     if ((behind >> next & 1) == 0) {

@@ -41,6 +41,14 @@ final class Checks {
         }
     }
 
+    /** DAYS are lived until NOW is a DAY. */
+    static void liveTo(StudioYears x, int day) {
+        for (int i = 0; i < 41 && x.status(4) < day; i++) {
+            x.days(Math.min(100, day - x.status(4)));
+        }
+        due("NOW", x.status(4), day);
+    }
+
     /** One of PEOPLE with a PAY, UNDER a TERM by a text (written into SHELF 7). */
     static int hire(StudioYears x, int pay, String text) {
         int who = x.person(pay);

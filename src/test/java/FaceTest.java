@@ -101,7 +101,7 @@ public final class FaceTest {
         claim("none of what LANGUAGE.md leaves out", !banned.find());
         claim("signs 1 to 127 alone", text.chars().allMatch(sign -> sign > 0 && sign < 128));
         Matcher library = Pattern.compile("\\b(Math|Integer|System|Long)\\.(\\w+)").matcher(code);
-        Set<String> allowed = Set.of("max", "min", "MAX_VALUE", "bitCount", "numberOfTrailingZeros", "arraycopy");
+        Set<String> allowed = Set.of("max", "min", "bitCount", "numberOfTrailingZeros", "arraycopy");
         while (library.find()) {
             claim(library.group() + " is in the library", allowed.contains(library.group(2)));
         }

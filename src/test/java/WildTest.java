@@ -46,11 +46,11 @@ public final class WildTest {
         for (int call = 0; call < 450; call++) {
             Method one = methods.get(random.nextInt(methods.size()));
             Object[] with = arguments(one, random);
-            long[] before = picture(x);
+            long[] before = Probe.told(x);
             long answer = ((Number) one.invoke(x, with)).longValue();
             String told = one.getName() + Arrays.toString(with);
             Checks.due(told + " of a twin", ((Number) one.invoke(twin, with)).longValue(), answer);
-            long[] after = picture(x);
+            long[] after = Probe.told(x);
             boolean refused = !NEVER_REFUSED.contains(one.getName()) && answer < 0;
             for (int i = 1; i <= 7; i++) {
                 int more = refused && answer == -i ? 1 : 0;
@@ -59,7 +59,7 @@ public final class WildTest {
             }
             // term() tells its FAULT even when it is refused.
             if (one.getName().equals("term")) {
-                before[0] = after[0];
+                before[Probe.FAULT] = after[Probe.FAULT];
             }
             if (refused || NEVER_REFUSED.contains(one.getName())) {
                 Checks.due("changed by " + told, Arrays.equals(before, after) ? 0 : 1, 0);
@@ -150,62 +150,5 @@ public final class WildTest {
             return random.nextInt();
         }
         return way < 16 ? random.nextInt(4) : random.nextInt(60);
-    }
-
-    /** All that the object tells without being changed: fault, the REFUSALS, then the rest. */
-    private static long[] picture(StudioYears x) {
-        List<Long> all = new ArrayList<>();
-        all.add((long) x.fault());
-        for (int what = 11; what <= 17; what++) {
-            all.add((long) x.status(what));
-        }
-        for (int what = 0; what <= 10; what++) {
-            all.add((long) x.status(what));
-        }
-        for (int i = 0; i < 16; i++) {
-            addPerson(x, i, all);
-        }
-        for (int i = 0; i < 8; i++) {
-            addPicture(x, i, all);
-            all.add((long) x.holds(i));
-            for (int e = 0; e < 60; e++) {
-                all.add(x.element(i, e));
-            }
-            all.add((long) x.got(0, i));
-            for (int week = 0; week < 40; week++) {
-                all.add((long) x.shown(i, week));
-            }
-        }
-        long[] row = new long[all.size()];
-        for (int i = 0; i < row.length; i++) {
-            row[i] = all.get(i);
-        }
-        return row;
-    }
-
-    private static void addPerson(StudioYears x, int i, List<Long> all) {
-        for (int what = 0; what < 8; what++) {
-            all.add((long) x.who(i, what));
-        }
-        for (int letter = 0; letter < 5; letter++) {
-            all.add((long) x.counts(i, letter, 0));
-            all.add((long) x.counts(i, letter, 4000));
-        }
-        all.add((long) x.got(1, i));
-    }
-
-    private static void addPicture(StudioYears x, int i, List<Long> all) {
-        for (int what = 0; what < 9; what++) {
-            all.add((long) x.about(i, what));
-        }
-        for (int scene = 0; scene < 8; scene++) {
-            all.add((long) x.left(i, scene));
-            all.add((long) x.bestScene(i, scene));
-            all.add((long) x.reelTake(i, scene));
-            all.add((long) x.credit(i, scene));
-        }
-        all.add(x.putRight(i, false));
-        all.add(x.putRight(i, true));
-        all.add((long) x.planned(i));
     }
 }
