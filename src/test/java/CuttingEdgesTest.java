@@ -6,6 +6,7 @@ public final class CuttingEdgesTest {
         fullDrafts();
         likeLinesOnce();
         leftOfTheOlderFirst();
+        leftForGood();
         handsThroughDrafts();
         linesAreWhole();
         draftAsItIs();
@@ -19,6 +20,7 @@ public final class CuttingEdgesTest {
         reelOfTakesWithoutWorth();
         fullReel();
         reelTakeOfTheLatest();
+        reelBehindAGreaterOne();
         cameAndLiked();
         nobodyCame();
         greatFractions();
@@ -130,6 +132,16 @@ public final class CuttingEdgesTest {
         // 1 2 1 (0 1 1) to 2 1: the first 1 is left, the second is KEPT.
         Checks.due("two of three", draft(z, 2, 2, 1), 2);
         credits(z, 0, 2, 0, 0, 0, 0);
+    }
+
+    /** How many can be KEPT is asked of what is to come, not of lines that were left already. */
+    private static void leftForGood() {
+        StudioYears x = onePicture(0);
+        draft(x, 0, 3, 4, 1, 7, 2);
+        Checks.due("1 and 2", draft(x, 1, 1, 2, 3, 4), 2);
+        credits(x, 2, 2, 0, 0, 0, 0);
+        Checks.due("3 and 4 are the other's now", draft(x, 2, 3, 4), 2);
+        credits(x, 0, 2, 0, 0, 0, 0);
     }
 
     private static void handsThroughDrafts() {
@@ -343,9 +355,29 @@ public final class CuttingEdgesTest {
         Checks.due("in the latest", x.reelTake(0, 1), 0);
     }
 
+    /** What a great PICTURE left behind does not count for a small one. */
+    private static void reelBehindAGreaterOne() {
+        StudioYears x = onePicture(8);
+        for (int scene = 0; scene < 8; scene++) {
+            x.take(0, scene, 10, 99, 0);
+        }
+        x.picture(0);
+        x.scene(1, 0, 0, 1);
+        x.take(1, 0, 10, 5, 0);
+        x.take(1, 0, 10, 4, 0);
+        Checks.due("the great one", x.reel(0, 400), 792);
+        Checks.due("the small one", x.reel(1, 400), 5);
+        Checks.due("its TAKE", x.reelTake(1, 0), 0);
+        Checks.due("the great one's as before", x.reelTake(0, 7), 0);
+    }
+
     private static void cameAndLiked() {
         StudioYears x = onePicture(0);
         x.land(0, 99);
+        x.picture(0);
+        Checks.due("one alone, who liked it", x.preview(1, 0, 1, 1), 1);
+        Checks.due("upper part", x.putRight(1, false), 1);
+        Checks.due("lower part", x.putRight(1, true), 1);
         Checks.due("one", x.preview(0, 0, 1, 0), 1);
         fraction(x, 0, 1);
         Checks.due("two", x.preview(0, 0, 1, 1), 2);

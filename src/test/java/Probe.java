@@ -1,7 +1,10 @@
 import java.util.ArrayList;
 import java.util.List;
 
-/** All that an object tells, so that two objects, or one before and after a call, can be compared. */
+/**
+ * All that an object tells, so that two objects, or one before and after a call, can be compared. It
+ * takes more than the 512 calls that are promised: the class happens to answer later ones likewise.
+ */
 final class Probe {
     /** Where in told() the FAULT stands, and the REFUSALS -1 to -7 behind it. */
     static final int FAULT = 0;

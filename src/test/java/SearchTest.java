@@ -23,6 +23,9 @@ public final class SearchTest {
         for (int i = 0; i < 150; i++) {
             plans(1 + RANDOM.nextInt(i < 140 ? 4 : 5));
         }
+        for (int i = 0; i < 60; i++) {
+            apart();
+        }
         Checks.end();
     }
 
@@ -362,5 +365,52 @@ public final class SearchTest {
             }
         }
         return true;
+    }
+
+    // ---- several PICTURES in one object ----
+
+    /** What is asked of one PICTURE is answered as if the others were not there. */
+    private static void apart() {
+        StudioYears all = new StudioYears();
+        int[] sets = {RANDOM.nextInt(9), RANDOM.nextInt(50)};
+        costsAndPeople(all, sets);
+        StudioYears[] alone = new StudioYears[8];
+        for (int number = 0; number < 8; number++) {
+            alone[number] = new StudioYears();
+            costsAndPeople(alone[number], sets);
+            all.picture(0);
+            alone[number].picture(0);
+            long seed = RANDOM.nextLong();
+            fillPicture(all, number, new Random(seed));
+            fillPicture(alone[number], 0, new Random(seed));
+        }
+        for (int i = 0; i < 40; i++) {
+            int number = RANDOM.nextInt(8);
+            int length = RANDOM.nextInt(200);
+            Checks.due("best", all.best(number), alone[number].best(0));
+            Checks.due("reel", all.reel(number, length), alone[number].reel(0, length));
+            for (int scene = 0; scene < 8; scene++) {
+                Checks.due("bestScene", all.bestScene(number, scene), alone[number].bestScene(0, scene));
+                Checks.due("reelTake", all.reelTake(number, scene), alone[number].reelTake(0, scene));
+            }
+        }
+    }
+
+    private static void costsAndPeople(StudioYears x, int[] sets) {
+        x.costs(0, sets[0]);
+        x.costs(1, sets[1]);
+        for (int who = 0; who < 5; who++) {
+            x.person(70 + 70 * who);
+        }
+    }
+
+    private static void fillPicture(StudioYears x, int number, Random random) {
+        int scenes = 1 + random.nextInt(8);
+        for (int scene = 0; scene < scenes; scene++) {
+            x.scene(number, random.nextInt(3), random.nextInt(32), 1 + random.nextInt(4));
+            for (int take = random.nextInt(5); take > 0; take--) {
+                x.take(number, scene, 1 + random.nextInt(60), random.nextInt(60), 11 * random.nextInt(2));
+            }
+        }
     }
 }

@@ -7,6 +7,8 @@ public final class ShootingEdgesTest {
         oneScene();
         theDearest();
         likesInOrder();
+        middleOfAll();
+        bestBehindAGreaterOne();
         asThingsAre();
         boundAtTheEdges();
         ordersAtTheEdges();
@@ -14,6 +16,7 @@ public final class ShootingEdgesTest {
         firstPlace();
         changeUsesNobody();
         usedOnce();
+        usedElsewhere();
         whoIsReady();
         endOfATerm();
         idleOrDone();
@@ -132,6 +135,38 @@ public final class ShootingEdgesTest {
         int[] then = {0, 1, 3, 2};
         for (int i = 0; i < 4; i++) {
             Checks.due("then the second", y.bestScene(0, i), then[i]);
+        }
+    }
+
+    /** BEST ORDER need not begin with SCENE 0. */
+    private static void middleOfAll() {
+        StudioYears x = new StudioYears();
+        x.person(70);
+        x.person(70);
+        x.picture(0);
+        x.scene(0, 0, 3, 1);
+        x.scene(0, 0, 1, 1);
+        x.scene(0, 0, 2, 1);
+        Checks.due("nobody waits", x.best(0), 40);
+        int[] want = {1, 0, 2};
+        for (int i = 0; i < 3; i++) {
+            Checks.due("SCENE 0 in the middle", x.bestScene(0, i), want[i]);
+        }
+    }
+
+    /** What a great PICTURE left behind does not count for a small one. */
+    private static void bestBehindAGreaterOne() {
+        StudioYears x = new StudioYears();
+        x.costs(0, 100);
+        for (int scenes = 8; scenes >= 1; scenes--) {
+            int number = x.picture(0);
+            for (int scene = 0; scene < scenes; scene++) {
+                x.scene(number, 0, 0, 1);
+            }
+        }
+        for (int number = 0; number < 8; number++) {
+            Checks.due("best of " + (8 - number), x.best(number), 100 * (8 - number));
+            Checks.due("its last", x.bestScene(number, 7 - number), 7 - number);
         }
     }
 
@@ -295,6 +330,30 @@ public final class ShootingEdgesTest {
         for (int number = 0; number < 4; number++) {
             Checks.due("then shot by " + number, x.about(number, 6), then[number]);
         }
+    }
+
+    /** Where the first SCENE's CAST was used on that DAY, the next one that can is shot. */
+    private static void usedElsewhere() {
+        StudioYears x = new StudioYears();
+        Checks.hire(x, 7, "w0");
+        Checks.fill(x, 0, 0);
+        x.picture(0);
+        x.scene(0, 1, 1, 2);
+        x.begin(0, 0);
+        Checks.fill(x, 0, 0, 1);
+        x.picture(0);
+        x.scene(1, 1, 1, 1);
+        x.scene(1, 1, 0, 1);
+        x.begin(1, 0);
+        x.days(2);
+        Checks.due("PICTURE 0 has used the one", x.left(0, 0), 1);
+        Checks.due("so its first SCENE waits", x.left(1, 0), 1);
+        Checks.due("and the second is shot", x.left(1, 1), 0);
+        Checks.due("not IDLE", x.about(1, 5), 0);
+        x.days(1);
+        Checks.due("then IDLE", x.about(1, 5), 1);
+        x.days(1);
+        Checks.due("then its first", x.left(1, 0), 0);
     }
 
     /** All of a CAST must be READY: one who isn't stops it. */
