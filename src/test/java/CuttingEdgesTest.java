@@ -4,6 +4,7 @@ public final class CuttingEdgesTest {
         firstDraft();
         emptyDrafts();
         fullDrafts();
+        fullToItsEnd();
         likeLinesOnce();
         leftOfTheOlderFirst();
         leftForGood();
@@ -100,6 +101,25 @@ public final class CuttingEdgesTest {
         }
         Checks.due("no ninth", draft(x, 5, 1), -7);
         credits(x, 0, 0, 0, 60, 0, 0);
+    }
+
+    /** A full DRAFT that ends while lines of the older one are left, and the other way about. */
+    private static void fullToItsEnd() {
+        long[] older = new long[60];
+        long[] newer = new long[60];
+        for (int i = 0; i < 60; i++) {
+            older[i] = i + 1;
+            newer[i] = i;
+        }
+        StudioYears x = onePicture(0);
+        draft(x, 0, older);
+        Checks.due("moved down by one", draft(x, 1, newer), 59);
+        credits(x, 59, 1, 0, 0, 0, 0);
+        Checks.due("moved up by one", draft(x, 2, older), 59);
+        credits(x, 59, 0, 1, 0, 0, 0);
+        Checks.due("the first alone", draft(x, 3, 1), 1);
+        Checks.due("and all behind it", draft(x, 4, older), 1);
+        credits(x, 1, 0, 0, 0, 59, 0);
     }
 
     private static void likeLinesOnce() {

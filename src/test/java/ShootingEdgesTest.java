@@ -20,6 +20,8 @@ public final class ShootingEdgesTest {
         whoIsReady();
         endOfATerm();
         idleOrDone();
+        idleUsesNobody();
+        idleWithEightScenes();
         retakesAtTheEdges();
         picturesByNumbers();
         leftAheadOfBegin();
@@ -415,6 +417,36 @@ public final class ShootingEdgesTest {
         Checks.due("done, not IDLE", x.about(1, 5), 0);
         Checks.due("LEFT", x.about(0, 3), 1);
         Checks.due("LEFT", x.about(1, 3), 0);
+    }
+
+    /** Who is READY but waits for another is free for a later PICTURE. */
+    private static void idleUsesNobody() {
+        StudioYears x = new StudioYears();
+        Checks.hire(x, 7, "w0");
+        x.person(7);
+        Checks.fill(x, 0, 0);
+        for (int cast : new int[] {3, 1}) {
+            int number = x.picture(0);
+            x.scene(number, 0, cast, 1);
+            x.begin(number, 0);
+        }
+        x.days(2);
+        Checks.due("PICTURE 0 is IDLE", x.about(0, 5), 2);
+        Checks.due("PICTURE 1 is shot", x.about(1, 6), 1);
+    }
+
+    private static void idleWithEightScenes() {
+        StudioYears x = new StudioYears();
+        x.person(7);
+        x.picture(0);
+        for (int scene = 0; scene < 8; scene++) {
+            x.scene(0, 0, 1, 1);
+        }
+        Checks.fill(x, 0, 7, 6, 5, 4, 3, 2, 1, 0);
+        x.begin(0, 0);
+        x.days(5);
+        Checks.due("none of eight can be shot", x.about(0, 5), 5);
+        Checks.due("LEFT", x.about(0, 3), 8);
     }
 
     private static void retakesAtTheEdges() {
