@@ -6,9 +6,9 @@ import java.util.TreeMap;
 import java.util.TreeSet;
 
 /**
- * A second writing of the whole document, from its words alone and without a thought of speed: it keeps
- * histories and goes through everything, so that WholeTest can lay the class against it. Its public
- * methods are the document's face.
+ * A second writing of the whole document, without a thought of speed: it keeps histories and goes
+ * through everything, so that WholeTest can lay the class against it. Its public methods are the
+ * document's face.
  */
 public final class PlainYears {
     private static final int NONE = -1;
